@@ -307,6 +307,7 @@ public final class BookmarkHeap {
         }
     }
 
+    /** A count tells how many pages out refer to a page, so with none out all counts are 0 and no bookmark is left. */
     private void bringInAll() {
         for (int page = 0; page < PAGES; page++) {
             if (states[page] == OUT) {
@@ -414,7 +415,7 @@ public final class BookmarkHeap {
         return true;
     }
 
-    /** The place taken for a new object, or NOTHING; withinBudget says whether a page may have to go for it. */
+    /** The place taken for a new object, or NOTHING; withinBudget says whether a page may be put out for it. */
     private int takePlace(boolean withinBudget) {
         int place = freePlaceOnPagesIn();
         if (place == NOTHING) {
