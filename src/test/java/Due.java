@@ -5,13 +5,23 @@ final class Due {
     }
 
     private static int wrong = 0;
+    private static String sentence = "";
 
     private Due() {
+    }
+
+    /** The sentence of the document that the next answers are due by: printed before the first that is wrong. */
+    static void by(String words) {
+        sentence = words;
     }
 
     static void is(String call, Object got, Object want) {
         if (!got.equals(want)) {
             wrong++;
+            if (!sentence.isEmpty()) {
+                System.out.println("not so: " + sentence);
+                sentence = "";
+            }
             System.out.println(call + " answered " + got + ", due is " + want);
         }
     }
