@@ -42,6 +42,7 @@ public final class TermsEdgesTest {
         thoroughWithNoneOut();
         thoroughOverBudget();
         thoroughLeavesNoBookmark();
+        thoroughLeavesUsedBitsClear();
         thoroughUpToBudget();
         thoroughBeyondBudget();
         thoroughCollectsCyclesOverPages();
@@ -562,6 +563,21 @@ public final class TermsEdgesTest {
         heap.budget(8);
         Due.is("thorough", heap.thorough(), 0);
         Due.is("after", Heaps.state(heap), "11111122 00000000 15 15 15 15 15 15 15 15 6 6 32");
+    }
+
+    private static void thoroughLeavesUsedBitsClear() {
+        Due.by("v is out, its used bit is clear [..] Then v is in (used bit clear)");
+        BookmarkHeap heap = Heaps.withPageOut();
+        heap.value(0);
+        heap.value(2);
+        Due.is("page 2, used before, is out", Heaps.state(heap), "12300000 00000000 15 15 17 0 0 0 0 0 3 2 9");
+        heap.budget(8);
+        Due.is("thorough", heap.thorough(), 6);
+        Due.is("it is in, not used", Heaps.state(heap), "12100000 00000000 1 8 1 0 0 0 0 0 3 3 3");
+        Due.is("budget(2)", heap.budget(2), 1);
+        Due.is("page 0 has gone", Heaps.state(heap), "32100000 00000000 17 8 1 0 0 0 0 0 1 3 3");
+        heap.value(0);
+        Due.is("page 2 goes, page 1 being used", Heaps.state(heap), "21300000 00000000 1 8 17 0 0 0 0 0 3 4 3");
     }
 
     private static void thoroughUpToBudget() {
